@@ -115,9 +115,9 @@ public final class LooseWater {
         tape = new int[MOST_BYTES];
         reader = new Reader();
         balance = new Balance();
-        rounds = new Rounds(balance);
-        orders = new OrderSearch(balance);
-        bests = new BestSearch(rounds, plans);
+        rounds = new Rounds();
+        orders = new OrderSearch();
+        bests = new BestSearch();
         kept = new int[STATE_SIZE];
     }
 
@@ -271,8 +271,14 @@ public final class LooseWater {
                 || vessel.round + n > MOST_ROUND) {
             return UNTOLD;
         }
-        rounds.go(vessel, plans[plan], n);
+        goBy(vessel, plan, n);
         return vessel.lean;
+    }
+
+    private void goBy(Ship s, int plan, int n) {
+        for (int i = 0; i < n; i++) {
+            rounds.go(s, plans[plan]);
+        }
     }
 
     // ---- Promises 15 to 24: what is told of her
@@ -456,7 +462,7 @@ public final class LooseWater {
         vessel.keep(kept, 0);
         int first = vessel.isOver() ? 0 : NOT_FOUND;
         for (int i = 1; i <= n; i++) {
-            rounds.go(vessel, plans[plan], 1);
+            rounds.go(vessel, plans[plan]);
             if (first < 0 && vessel.isOver()) {
                 first = i;
             }
@@ -481,8 +487,8 @@ public final class LooseWater {
         past.keep(kept, 0);
         int found = NOT_FOUND;
         for (int k = n; k >= 0 && found < 0; k--) {
-            rounds.go(past, plans[plan], k);
-            rounds.go(past, plans[other], n - k);
+            goBy(past, plan, k);
+            goBy(past, other, n - k);
             if (!past.isOver()) {
                 found = k;
             }
@@ -500,7 +506,7 @@ public final class LooseWater {
         for (int more = 99; more >= 0 && found < 0; more--) {
             for (int i = 0; i < n && !vessel.isOver(); i++) {
                 vessel.add(place, more);
-                rounds.go(vessel, plans[plan], 1);
+                rounds.go(vessel, plans[plan]);
             }
             if (!vessel.isOver()) {
                 found = more;
@@ -633,7 +639,7 @@ public final class LooseWater {
             return NOT_FOUND;
         }
         bests.begin(vessel, planned, n, r);
-        bests.extend(vessel, 0, 0);
+        bests.extend(vessel, plans, 0, 0);
         vessel.restore(bests.states, 0);
         return k < 0 ? bests.least : bests.row[k];
     }
@@ -1570,64 +1576,64 @@ public final class LooseWater {
     // ==== Rounds
 
     private static final class Rounds {
-        private final Balance balance;
+        private final Balance balance = new Balance();
         private final long[] stack = new long[MOST_VALUES];
 
-        Rounds(Balance shared) {
-            balance = shared;
-        }
-
-        void go(Ship s, Plan plan, int n) {
-            for (int i = 0; i < n; i++) {
-                if (!s.isOver()) {
-                    doClauses(s, plan);
-                    passOpenings(s);
-                    s.cargoes.giveWay(s.lean);
-                    balance.take(s);
-                    s.lean = balance.restFrom(s.lean, ROUND_WALK);
+        /** One ROUND. */
+        void go(Ship s, Plan plan) {
+            if (!s.isOver()) {
+                for (int i = 0; i < plan.clauses; i++) {
+                    if (applies(s, plan, i)) {
+                        act(s, plan, i);
+                    }
                 }
-                s.round++;
-            }
-        }
-
-        private static void passOpenings(Ship s) {
-            for (int i = 0; i < s.doors.size; i++) {
-                s.letIn(i);
-            }
-            for (int i = 0; i < s.ports.size; i++) {
-                s.letOut(i);
-            }
-        }
-
-        private void doClauses(Ship s, Plan plan) {
-            for (int i = 0; i < plan.clauses; i++) {
-                boolean tested = plan.testFrom[i] < plan.testTo[i];
-                if (tested && compute(s, plan.code, plan.testFrom[i], plan.testTo[i]) == 0) {
-                    continue;
+                for (int i = 0; i < s.doors.size; i++) {
+                    s.letIn(i);
                 }
-                if (plan.verb[i] == PACE) {
-                    s.pace = plan.figure[i];
-                } else if (plan.verb[i] == SHIFT) {
-                    long sum = compute(s, plan.code, plan.sumFrom[i], plan.testFrom[i]);
-                    s.aside = (int) Math.max(-MOST_ASIDE, Math.min(sum, MOST_ASIDE));
-                } else {
-                    moveWater(s, plan, i);
+                for (int i = 0; i < s.ports.size; i++) {
+                    s.letOut(i);
                 }
+                s.cargoes.giveWay(s.lean);
+                balance.take(s);
+                s.lean = balance.restFrom(s.lean, ROUND_WALK);
             }
+            s.round++;
         }
 
-        private static void moveWater(Ship s, Plan plan, int i) {
+        private boolean applies(Ship s, Plan plan, int i) {
+            int from = plan.testFrom[i];
+            int to = plan.testTo[i];
+            return from == to || compute(s, plan.code, from, to) != 0;
+        }
+
+        private void act(Ship s, Plan plan, int i) {
+            int figure = plan.figure[i];
             int first = plan.first[i];
             int second = plan.second[i];
-            if (first >= s.places.size) {
-                return;
-            }
-            if (plan.verb[i] == PUMP) {
-                s.remove(first, plan.figure[i]);
-            } else if (plan.verb[i] == FILL) {
-                s.add(first, plan.figure[i]);
-            } else if (second < s.places.size && second != first) {
-                s.cross(first, second, plan.figure[i]);
+            boolean there = first < s.places.size;
+            switch (plan.verb[i]) {
+                case PACE:
+                    s.pace = figure;
+                    break;
+                case SHIFT:
+                    long sum = compute(s, plan.code, plan.sumFrom[i], plan.testFrom[i]);
+                    s.aside = (int) Math.max(-MOST_ASIDE, Math.min(sum, MOST_ASIDE));
+                    break;
+                case PUMP:
+                    if (there) {
+                        s.remove(first, figure);
+                    }
+                    break;
+                case FILL:
+                    if (there) {
+                        s.add(first, figure);
+                    }
+                    break;
+                default:
+                    if (there && second < s.places.size && second != first) {
+                        s.cross(first, second, figure);
+                    }
+                    break;
             }
         }
 
@@ -1690,17 +1696,13 @@ public final class LooseWater {
     /** In what order places can be filled. */
     private static final class OrderSearch {
         private static final int TOO_FAR = -100;
-        private final Balance balance;
+        private final Balance balance = new Balance();
         private final int[] members = new int[MOST_ORDERED];
         private int size;
         private int bound;
         final int[] row = new int[MOST_ORDERED];
         /** Of each set of filled members two longs: the leans with which it is known to lead nowhere. */
         private final long[] hopeless = new long[2 << MOST_ORDERED];
-
-        OrderSearch(Balance shared) {
-            balance = shared;
-        }
 
         boolean find(Ship s, int places, int itsBound) {
             Arrays.fill(hopeless, 0);
@@ -1761,8 +1763,7 @@ public final class LooseWater {
 
     /** By which row of plans she leans least. */
     private static final class BestSearch {
-        private final Rounds rounds;
-        private final Plan[] plans;
+        private final Rounds rounds = new Rounds();
         private int planned;
         private int stages;
         private int length;
@@ -1772,11 +1773,6 @@ public final class LooseWater {
         /** How she is ahead of each stage. */
         final int[] states = new int[MOST_STAGES * STATE_SIZE];
 
-        BestSearch(Rounds shared, Plan[] all) {
-            rounds = shared;
-            plans = all;
-        }
-
         void begin(Ship s, int itsPlanned, int itsStages, int itsLength) {
             planned = itsPlanned;
             stages = itsStages;
@@ -1785,7 +1781,7 @@ public final class LooseWater {
             s.keep(states, 0);
         }
 
-        private void extend(Ship s, int stage, int worst) {
+        private void extend(Ship s, Plan[] plans, int stage, int worst) {
             if (stage >= stages) {
                 return;
             }
@@ -1794,7 +1790,7 @@ public final class LooseWater {
                 int worse = worst;
                 // A row that is no better already can't become better.
                 for (int i = 0; i < length && worse < least; i++) {
-                    rounds.go(s, plans[p], 1);
+                    rounds.go(s, plans[p]);
                     worse = Math.max(worse, Math.abs(s.lean));
                 }
                 if (worse < least) {
@@ -1804,7 +1800,7 @@ public final class LooseWater {
                         System.arraycopy(tried, 0, row, 0, MOST_STAGES);
                     } else {
                         s.keep(states, (stage + 1) * STATE_SIZE);
-                        extend(s, stage + 1, worse);
+                        extend(s, plans, stage + 1, worse);
                     }
                 }
             }
