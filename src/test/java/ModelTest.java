@@ -222,6 +222,7 @@ public final class ModelTest {
     // ---- the model of plans: read byte by byte, kept as trees
 
     static final class Fault extends RuntimeException {
+        private static final long serialVersionUID = 1;
         final int code;
 
         Fault(int place, int kind) {
@@ -1117,8 +1118,8 @@ public final class ModelTest {
                 case 13: say("sets", 0, near(-500, 500)); break;
                 case 14: say("load", near(1, 900), near(0, 3000)); break;
                 case 15: say("form", near(1, 12), near(0, 900)); break;
-                case 16: say("image", near(0, 3)); break;
-                case 17: say("back", near(0, 3)); break;
+                case 16: say("image", near(0, r.nextInt(4))); break;
+                case 17: say("back", near(0, r.nextInt(4))); break;
                 case 18: say("feed", r.nextInt(), r.nextInt(), r.nextInt(), r.nextInt(), r.nextInt()); break;
                 default: if (r.nextInt(6) == 0) build(); else say("end", near(0, Math.max(1, model.tape.size()))); break;
             }
@@ -1141,12 +1142,17 @@ public final class ModelTest {
                 case 12: say("sinks", aPlace()); break;
                 case 13: say("parts", aPlace()); break;
                 case 14: say("carried", near(1, 999), near(1, r.nextBoolean() ? 99 : 999), near(0, 1)); break;
-                case 15: say("order", near(1, (1 << Math.min(places, 7)) - 1), near(1, 59), near(0, places - 1)); break;
+                case 15: order(places); break;
                 case 16: say("ahead", aPlan(), near(0, 60), near(0, 3)); break;
-                case 17: say("saved", near(0, 3), aPlan(), aPlan(), near(0, 30)); break;
+                case 17: say("saved", near(0, r.nextInt(4)), aPlan(), aPlan(), near(0, 30)); break;
                 case 18: say("hoses", aPlan(), aPlace(), near(1, 20)); break;
                 case 19: say("ice", near(1, 200), near(0, 3000)); break;
-                case 20: say("night", near(-300, 500), near(0, Math.max(0, model.sea == null ? 0 : model.sea.loads.size() - 1))); break;
+                case 20: {
+                    boolean near = model.sea != null && r.nextBoolean();
+                    int loads = model.sea == null ? 0 : model.sea.loads.size();
+                    say("night", near ? (int) model.sea.stiff() + to(-60, 40) : near(-300, 500), near(0, Math.max(0, loads - 1)));
+                    break;
+                }
                 case 21: say("guess", near(-60, 60), near(0, 500), near(0, 2)); break;
                 case 22: {
                     int n = near(1, model.plans.size() > 3 ? 2 : 3);
@@ -1158,6 +1164,37 @@ public final class ModelTest {
                 case 26: say("leaves", aPlace(), near(0, 300)); break;
                 default: say("count", near(0, 6)); break;
             }
+        }
+
+        /** The bound is often just where she comes to rest with one place full, or one beside it. */
+        void order(int places) {
+            int set = near(1, (1 << Math.min(places, 7)) - 1);
+            int bound = near(1, 59);
+            int p = aPlace();
+            if (model.place(p) && r.nextBoolean()) {
+                Sea s = model.with(p, r.nextBoolean() ? 100 : 50);
+                bound = Math.max(1, Math.abs(s.rest(s.lean)) - r.nextInt(2));
+            }
+            say("order", set, bound, near(0, Math.max(1, Integer.bitCount(set)) - 1));
+        }
+
+        /** Many orders of many places on one ship that lolls to both sides. */
+        boolean goOrders() {
+            say("ship", 100, to(500, 2000), to(300, 600), 10);
+            int h = model.sea.height;
+            for (int k = 1; k <= 12; k++) say("form", k, Math.max(0, h * 88 * k / 1000 + to(-4, 6) * k));
+            int n = to(4, 8);
+            for (int i = 0; i < n; i++) {
+                say("place", near(0, 900), near(50, 300), near(50, 120), near(50, 150), near(1, 2), near(-30, 30));
+                if (r.nextInt(3) == 0) say("water", i, r.nextInt(60));
+            }
+            for (int i = 0; i < 60; i++) {
+                if (r.nextInt(4) == 0) say("sets", 2, to(-30, 30));
+                if (r.nextInt(4) == 0) say("sets", 0, to(-3000, 3000));
+                order(model.sea.places.size());
+            }
+            tellAll();
+            return !wrong;
         }
 
         void tellAll() {
@@ -1183,11 +1220,12 @@ public final class ModelTest {
     }
 
     public static void main(String[] args) {
-        int runs = args.length > 0 ? Integer.parseInt(args[0]) : 250;
+        int runs = args.length > 0 ? Integer.parseInt(args[0]) : 400;
         long first = args.length > 1 ? Long.parseLong(args[1]) : 1;
         java.util.TreeMap<String, Integer> seen = new java.util.TreeMap<>();
         for (int i = 0; i < runs; i++) {
-            if (!new Runner(first + i, seen).go()) {
+            Runner run = new Runner(first + i, seen);
+            if (!(i % 6 == 5 ? run.goOrders() : run.go())) {
                 System.out.println("seed " + (first + i) + " parts from the model");
                 System.exit(1);
             }

@@ -368,6 +368,11 @@ public final class PromiseTest {
         fault(times("pace 1;", 12) + "  pump", 86, 4);
         fault(times("pace 1;", 12) + "lean", 84, 0);
         fault(times("pace 1;", 12), 84, 0);
+        fault(times(";", 400), 0, 0);
+        fault("pace 1 if " + times("not ", 3) + times("[", 7) + times("a", 371), 29, 0);
+        fault("pace 1;" + times("+", 393), 7, 0);
+        fault("shift 1" + times(" ", 392) + "+", 400, 0);
+        fault("pace 1" + times(" ", 393) + ";", 400, 0);
     }
 
     /** What a test or a sum is worth, told by PACE or ASIDE behind one round. */
@@ -492,6 +497,25 @@ public final class PromiseTest {
         due(14, "it stays", x.tells(1), 9999);
     }
 
+    /** What an earlier ship had in places that this one has not must be nowhere. */
+    private static void placesOfAnotherShip() {
+        LooseWater x = steady();
+        for (int i = 0; i < 3; i++) {
+            x.place(0, 100, 100, 100, 1, 9);
+            x.water(i, 50);
+        }
+        x.ship(100, 1000, 500, 10);
+        x.place(0, 100, 100, 100, 1, 0);
+        x.water(0, 50);
+        x.run(plan(x, "fill b 5; fill c 5; cross a b 5; cross b a 5; shift a * 1000 + b * 10 + c"), 1);
+        due(14, "nothing in places that are not there", x.tells(4), 1050);
+        due(14, "nor are they worth anything", x.tells(2), 50000);
+        due(4, "a place anew", x.place(0, 100, 100, 100, 1, 0), 1);
+        due(4, "is empty", x.of(1, 0), 0);
+        due(4, "its level", x.of(1, 2), 0);
+        due(4, "its run", x.flows(1, 30), 0);
+    }
+
     private static void openings() {
         // DRAFT 100; at 30 degrees SIN is 500: her side is 250 deeper
         LooseWater x = steady();
@@ -512,6 +536,9 @@ public final class PromiseTest {
         x.door(0, 1, 100, 200);
         x.run(plan(x, "pump l 1"), 1);
         due(14, "a sill as high as the sea", x.of(0, 0), 0);
+        x.door(0, 1, 99, 200);
+        x.run(0, 1);
+        due(14, "a sill that is lower by one", x.of(0, 0), 2);
 
         x = steady();
         x.place(0, 100, 100, 100, 1, 0);
@@ -610,6 +637,29 @@ public final class PromiseTest {
         due(15, "range", x.tells(9) > 50 && x.tells(9) < 61, true);
         due(15, "turn at range", x.turn(x.tells(9)) > 0, true);
         due(15, "turn ahead of it", x.turn(x.tells(9) - 1) > 0, false);
+
+        // UP 1000 and TOTAL 1: TURN is SIN less LEVER
+        x = feather();
+        x.form(11, 817);
+        due(15, "0 on the way is not below", x.tells(9), 1);
+        x.form(11, 818);
+        due(15, "-1 is", x.tells(9), 56);
+        x.form(11, 3000);
+        x.form(12, 863);
+        due(15, "1 is above", x.tells(9), 60);
+        x.form(12, 864);
+        due(15, "0 is not", x.tells(9), 61);
+    }
+
+    /** Weight 1 at 1000: UP times SIN by 1000 is SIN. */
+    private static LooseWater feather() {
+        LooseWater x = new LooseWater();
+        x.ship(10, 1, 1000, 1);
+        return x;
+    }
+
+    private static long sin(int d) {
+        return 4000L * d * (180 - d) / (40500 - d * (180 - d));
     }
 
     private static void heights() {
@@ -653,6 +703,18 @@ public final class PromiseTest {
         due(17, "all of it", x.turn(30), 9936 + 25000 + 250625 - 108000);
         due(17, "all of it to the left", x.turn(-30), 9936 - 25000 - 250625 + 108000);
 
+        x = feather();
+        for (int d = 0; d <= 60; d++) due(17, "SIN of " + d, x.turn(d), sin(d));
+        x.sets(0, 100);
+        for (int d = 0; d <= 60; d++) due(17, "COS of " + d, x.turn(d), sin(90 - d) + sin(d));
+        for (int d = 1; d <= 60; d++) due(17, "COS of -" + d, x.turn(-d), sin(90 - d) - sin(d));
+
+        x = feather();
+        x.form(1, 87);
+        due(18, "1 turns her", x.rest(5), 60);
+        x.form(1, 89);
+        // LEVER 71, 53 of 4, 3 degrees; SIN 70, 53
+        due(18, "and -1", x.rest(5), 3);
         x = steady();
         due(18, "60", x.rest(60), 0);
         due(18, "-60", x.rest(-60), 0);
@@ -780,6 +842,56 @@ public final class PromiseTest {
         // low down: 1: 8500 + 500 - 10010; 3: 8500 + 1416 - 10030 = -114, and less and less
         due(25, "never", x.sinks(1), -2);
         due(25, "total", x.tells(4), 1000);
+
+        LooseWater y = feather();
+        y.place(0, 10, 100, 100, 1, 0);
+        y.form(1, 255);
+        // at 1, LEVER 51: 17 - 51, and n in it (0 to 10): 17 + the lesser of 1416 and 500 * the
+        // lesser of n and 10 - n, less 51 * n + 51; full 17 - 561: so 1 to 9
+        due(25, "sinks", y.sinks(0), 10);
+        y.ship(10, 100, 1000, 1);
+        y.place(1000, 10, 100, 100, 1, 0);
+        y.walls(0, 9);
+        y.form(1, 85);
+        // LEVER of 1 is 17: 1700 - 1700
+        due(25, "a turn of 0 is a loll of 1", y.sinks(0), 0);
+        due(32, "a turn of 0 is a loll of 1", y.ice(1, 0), 0);
+        y.form(1, 90);
+        // LEVER 18: 1700 - 1800; n in it at 1000 + n by 2 with a run of 1028 * 17 by 1000 = 17, or
+        // 55 * n: n = 10 has none and no more than 5 * 10 by 1000 of gain, so the full one never
+        due(25, "never", y.sinks(0), -2);
+        y.ship(10, 10, 1000, 1);
+        y.place(2000, 100, 10, 10, 1, 0);
+        y.form(1, 90);
+        // 170 - 180; CAP 1, so 0 till 100 hundredths: 1 at 2050 gives 34 - 18
+        due(25, "full", y.sinks(0), 100);
+        y.form(1, 100);
+        // LEVER 20: 170 - 200 + 34 - 20
+        due(25, "not even full", y.sinks(0), -2);
+
+        y.ship(10, 10, 1000, 1);
+        y.place(0, 20, 100, 100, 1, 0);
+        y.water(0, 10);
+        y.form(1, 150);
+        // LEVER 30, TOTAL 20, UP 10050: 170 + RUN - 600; RUN is 1416 by walls squared, 500 * 10 by
+        // walls at most: 354 with 2 parts
+        due(26, "two", y.parts(0), 2);
+        y.form(1, 94);
+        // LEVER 18: 170 + RUN - 360: 157 with 3, 190 would be a turn of 0
+        due(26, "three", y.parts(0), 3);
+        y.form(1, 47);
+        // LEVER 9: 170 + RUN - 180: 22 with 8 (1302 * 17 by 1000), 17 with 9
+        due(26, "none", y.parts(0), -2);
+        y.cargo(2, 0, 60, 0);
+        // TOTAL 22: 170 + RUN - 198: 28 with 7 (1700 * 17 by 1000) is a turn of 0, 22 with 8
+        due(26, "eight", y.parts(0), 8);
+        y.ship(10, 10, 1000, 1);
+        y.place(0, 20, 100, 100, 1, 0);
+        y.water(0, 10);
+        y.form(1, 48);
+        y.cargo(1, 0, 60, 0);
+        // TOTAL 21, LEVER 9: 170 + RUN - 189: 22 with 8, 17 with 9
+        due(26, "nine", y.parts(0), 9);
 
         x.water(0, 12);
         // two parts: 20833 * 17 by 1000 = 354: 8705 + 354 - 10120 is below 0
@@ -1073,6 +1185,12 @@ public final class PromiseTest {
         LooseWater z = steady();
         z.place(0, 1, 1, 1, 1, 0);
         due(38, "no slop", z.still(0), -2);
+        z.ship(10, 1000, 1, 1);
+        z.form(1, 3000);
+        z.place(0, 999, 1, 2000, 1, 0);
+        // STIFF about 34000 and so BEAT 0; CAP 199, LEVEL 5 a piece: 41 by 40 is 1, by 45 (9 in
+        // it: 5 hundredths, 9.95) is 0
+        due(38, "a beat and a slop of 0", z.still(0), 5);
 
         // DRAFT is 102: more than 101 upright; 102 by a degree (8); 60 degrees give 432
         due(39, "at 0", x.floods(1, 101), 0);
@@ -1199,6 +1317,7 @@ public final class PromiseTest {
         plans();
         language();
         rounds();
+        placesOfAnotherShip();
         openings();
         tells();
         heights();
