@@ -320,6 +320,11 @@ public final class PromiseTest {
         fault("pace 000001", 5, 1);
         fault("pump 5", 5, 0);
         fault("pump m 5", 5, 0);
+        fault("pump lean 5", 5, 0);
+        fault("dace 1", 0, 0);
+        fault("pack 1", 0, 0);
+        fault("shift mean", 6, 0);
+        fault("shift stifff", 6, 0);
         fault("pump a b", 7, 0);
         fault("fill a 10000", 7, 1);
         fault("fill a 123456", 7, 1);
@@ -703,6 +708,14 @@ public final class PromiseTest {
         due(17, "all of it", x.turn(30), 9936 + 25000 + 250625 - 108000);
         due(17, "all of it to the left", x.turn(-30), 9936 - 25000 - 250625 + 108000);
 
+        x = crank();
+        for (int i = 0; i < 12; i++) {
+            x.place(0, 100, 100, 100, 1, i);
+            x.water(i, 50);
+        }
+        // 12 RUNS of 7333, UP 515000 * 88 by 1000; 50 * 66 * 10 aside, COS of 5 is 996
+        due(17, "twelve places", x.turn(5), 12 * 7333 + 45320 + 32868);
+
         x = feather();
         for (int d = 0; d <= 60; d++) due(17, "SIN of " + d, x.turn(d), sin(d));
         x.sets(0, 100);
@@ -892,6 +905,10 @@ public final class PromiseTest {
         y.cargo(1, 0, 60, 0);
         // TOTAL 21, LEVER 9: 170 + RUN - 189: 22 with 8, 17 with 9
         due(26, "nine", y.parts(0), 9);
+        y.cargo(16, 0, 60, 0);
+        y.form(1, 25);
+        // TOTAL 37, LEVER 5: 170 + RUN - 185: with ten it would be 14
+        due(26, "nine are the most", y.parts(0), -2);
 
         x.water(0, 12);
         // two parts: 20833 * 17 by 1000 = 354: 8705 + 354 - 10120 is below 0
