@@ -1639,6 +1639,8 @@ public final class LooseWater {
 
         private long compute(Ship s, int[] code, int from, int to) {
             int top = 0;
+            // She does not change while a sum is told, so that she is weighed once at most.
+            boolean weighed = false;
             for (int i = from; i < to; i++) {
                 int c = code[i];
                 if (c > STIFF && c < LITERAL) {
@@ -1650,7 +1652,10 @@ public final class LooseWater {
                     }
                 } else if (top < MOST_VALUES) {
                     if (c == STIFF) {
-                        balance.take(s);
+                        if (!weighed) {
+                            balance.take(s);
+                            weighed = true;
+                        }
                         stack[top] = balance.stiffness();
                     } else {
                         stack[top] = c >= LITERAL ? c - LITERAL : worth(s, c);
