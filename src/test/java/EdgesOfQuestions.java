@@ -352,6 +352,13 @@ public final class EdgesOfQuestions {
             Edge.due("it stays", x.of(0, 0), 0);
             Edge.due("no ROUND", x.tells(1), 0);
             Edge.due("no places", noPlaces().ahead(0, 5, 2), 0);
+            // 9999 is a bound of what goes by, not of what would (see NOTES.md)
+            LooseWater y = Edge.leaf();
+            Edge.plan(y, "pace 0");
+            for (int i = 0; i < 166; i++) y.run(0, 60);
+            y.run(0, 39);
+            Edge.due("at ROUND 9999", y.ahead(0, 60, 0), 0);
+            Edge.due("ROUND 9999 yet", y.tells(1), 9999);
         });
         Edge.test(29, "the first ROUND from now on (0: now) behind which she is OVER.", () -> {
             LooseWater x = Edge.crank();

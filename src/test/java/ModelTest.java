@@ -1071,6 +1071,32 @@ public final class ModelTest {
             }
         }
 
+        /** All that the bounds allow, and a little beyond: sums that an int could not hold. */
+        void buildWide() {
+            say("ship", near(10, 400), near(1, r.nextBoolean() ? 99999 : 20), near(1, 3000), near(1, r.nextBoolean() ? 999 : 9));
+            int step = to(0, 250);
+            for (int k = 1; k <= 12; k++) say("form", k, near(Math.max(0, step * k - 40), Math.min(3000, step * k + 40)));
+            int n = to(0, 12);
+            for (int i = 0; i < n; i++) {
+                say("place", near(0, 2000), near(1, 999), near(1, 400), near(1, 2000), near(1, 9), near(-200, 200));
+                int p = model.sea == null ? -1 : model.sea.places.size() - 1;
+                if (model.place(p)) say("water", p, r.nextInt(model.sea.places.get(p).cap() + 1));
+            }
+            n = to(0, 6);
+            for (int i = 0; i < n; i++) {
+                say("cargo", near(1, 9999), near(0, 3000), near(1, 60), near(0, 200));
+                say("load", near(1, 9999), near(0, 3000));
+            }
+            n = to(0, 12);
+            for (int i = 0; i < n; i++) {
+                say("door", aPlace(), near(-1, 1), near(0, 3000), near(1, 200));
+                say("port", aPlace(), near(-1, 1), near(0, 3000), near(1, 200));
+            }
+            say("sets", 0, near(-99999, 99999));
+            say("sets", 1, near(0, 99));
+            say("sets", 2, near(-60, 60));
+        }
+
         void build() {
             int breadth = near(30, 200);
             int weight = to(300, 5000);
@@ -1207,7 +1233,7 @@ public final class ModelTest {
 
         boolean go() {
             if (r.nextInt(10) == 0) for (int i = 0; i < 20; i++) ask();
-            build();
+            if (r.nextInt(3) == 0) buildWide(); else build();
             int steps = to(20, 110);
             for (int i = 0; i < steps; i++) {
                 if (r.nextInt(6) == 0 && model.plans.size() < 6 || r.nextInt(60) == 0) text(plan());
