@@ -406,6 +406,15 @@ public final class EdgesOfPromises {
             for (int[] t : told) {
                 for (int what = 0; what <= 2; what++) Edge.due(t[0] + " ROUNDS, what " + what, x.ahead(1, t[0], what), t[what + 1]);
             }
+            LooseWater y = Edge.leaf();
+            Edge.plan(y, "fill l 5");
+            Edge.due("no PLACES", y.ahead(0, 1, 2), 0);
+            for (int i = 0; i < 12; i++) {
+                y.place(0, 100, 100, 100, 1, 0);
+                y.water(i, i + 1);
+            }
+            Edge.due("twelve PLACES, now", y.ahead(0, 0, 2), 78);
+            Edge.due("twelve PLACES, the last one filled", y.ahead(0, 2, 2), 88);
         });
         Edge.test(29, "3: the first ROUND behind which she is OVER (-2: none). -1000000 without these.", () -> {
             LooseWater x = laden();

@@ -1194,7 +1194,8 @@ public final class ModelTest {
 
         /** The bound is often just where she comes to rest with one place full, or one beside it. */
         void order(int places) {
-            int set = near(1, (1 << Math.min(places, 7)) - 1);
+            // places that near() put beyond their bounds are refused, so that there may be none at all
+            int set = near(1, (1 << Math.max(1, Math.min(places, 7))) - 1);
             int bound = near(1, 59);
             int p = aPlace();
             if (model.place(p) && r.nextBoolean()) {
